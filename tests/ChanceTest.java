@@ -97,6 +97,7 @@ public final class ChanceTest {
         Check.same("nothing stays", 0, book.count(4));
         Check.same("no hour", 0, book.span(0, true));
         Check.same("no hour", 0, book.span(0, false));
+        oneSeedAlone();
         TideBook sure = Check.coast("range 0 to 0;monk 0 pace 1;duty 0 from 0 to 9;duty 0 from 50 to 99;duty 1 from 0 to 9");
         Check.same("without storms the fewest", 2, sure.span(100, false));
         Check.same("are the most", 2, sure.span(100, true));
@@ -107,6 +108,29 @@ public final class ChanceTest {
         Check.same("kept already", 0, all.span(1, true));
         Check.noArgument("span(101, true)", () -> book.span(101, true));
         Check.noArgument("span(-1, false)", () -> book.span(-1, false));
+    }
+
+    /** Coasts on which the first wind of just one of the seeds 1 to 6 lets one keep the duty, or not. */
+    private static void oneSeedAlone() {
+        // first winds of seeds 0 to 7 by storm 100, less 5, as the document draws them
+        int[] winds = new int[8];
+        for (int seed = 0; seed < 8; seed++) {
+            int first = 1103515245 * seed + 12345;
+            int second = 1103515245 * first + 12345;
+            winds[seed] = (second >>> 16 & 32767) % 11 - 5;
+        }
+        for (int ground = 0; ground < 6; ground++) {
+            int fewest = 1;
+            int most = 0;
+            for (int seed = 1; seed <= 6; seed++) {
+                int kept = Math.max(0, winds[seed] + 3) - ground <= 1 ? 1 : 0;
+                fewest = Math.min(fewest, kept);
+                most = Math.max(most, kept);
+            }
+            TideBook book = Check.coast("storm 100;range 3 to 3;ground 0 19;monk 0 pace 1 goal 1;duty 1 from 0 to 0;ground 1 " + ground);
+            Check.same("the fewest on " + ground, fewest, book.span(1, false));
+            Check.same("the most on " + ground, most, book.span(1, true));
+        }
     }
 
     private static void seeds() {

@@ -214,6 +214,8 @@ public final class HoursTest {
         Check.same("none yet", 0, book.hours(2));
         Check.same("the first hour counts, and it is kept once", 1, book.hours(10));
         Check.same("bits", 0b110101, book.count(12));
+        TideBook empty = dry("monk 1 pace 1;duty 0 from 0 to 9");
+        Check.same("no one is there", 0, empty.hours(9));
         TideBook both = dry("monk 4 pace 1;monk 4 pace 1;duty 4 from 0 to 9;duty 4 from 3 to 9");
         Check.same("two duties in one call", 2, both.hours(4));
         Check.same("a row each", 2, both.count(14));
@@ -244,6 +246,9 @@ public final class HoursTest {
         Check.rule(book, "wade 9");
         Check.same("none", 0, book.stranded());
         Check.same("of a new one", 0, new TideBook().stranded());
+        TideBook beside = Check.coast("range 6 to 6;ground 0 5;ground 1 6;ground 2 2;ground 9 2;ground 10 6;ground 11 5;"
+                + "monk 1 pace 1;monk 10 pace 1");
+        Check.same("not beside what is no deeper than one wades", 0, beside.stranded());
         TideBook end = Check.coast("range 6 to 6;ground 0 6;ground 11 6;monk 0 pace 1;monk 11 pace 1;monk 5 pace 1");
         Check.same("the ends of the row count as deep", 0b011, end.stranded());
         // in hour 0 of tide 1 the water is at 6 again
@@ -290,6 +295,10 @@ public final class HoursTest {
         book.hours(1);
         Check.same("who is drowned now is not", 0b010, book.doomed(11));
         Check.same("100 hours", 0b010, book.doomed(100));
+        TideBook wind = Check.coast("range 0 to 0;storm 100;monk 0 pace 1");
+        wind.wind(5);
+        Check.same("wind as it is", 1, wind.doomed(1));
+        Check.same("but drawn else", 0, wind.trial(1, true));
         Check.noArgument("doomed(101)", () -> book.doomed(101));
         Check.noArgument("doomed(-1)", () -> book.doomed(-1));
     }
@@ -304,6 +313,10 @@ public final class HoursTest {
         Check.same("nothing stays", 0, book.count(12));
         book.hours(1);
         Check.same("what is kept now is, too", 0b0010, book.done(0));
+        TideBook wind = Check.coast("range 0 to 0;storm 100;ground 0 9;monk 0 pace 1 goal 5;duty 1 from 0 to 0");
+        wind.wind(2);
+        Check.same("wind as it is", 0, wind.done(1));
+        Check.same("but drawn else", 1, wind.trial(1, false));
         Check.noArgument("done(101)", () -> book.done(101));
         Check.noArgument("done(-1)", () -> book.done(-1));
     }

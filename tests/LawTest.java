@@ -130,6 +130,8 @@ public final class LawTest {
         TideBook book = deep();
         Check.wrongLaw(book, "wades 1", 0);
         Check.wrongLaw(book, "  wad 1", 2);
+        Check.wrongLaw(book, "wade 10", 5);
+        Check.wrongLaw(book, "tire 10", 5);
         Check.wrongLaw(book, "wade 0010", 5);
         Check.wrongLaw(book, "wade one", 5);
         Check.wrongLaw(book, "wade 1 wade 1", 7);

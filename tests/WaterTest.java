@@ -156,6 +156,8 @@ public final class WaterTest {
         book.wind(5);
         Check.same("whatever the wind is", 10, book.risk(0, 3, 1));
         Check.same("hour 9999", 10, book.risk(0, 9999, 1));
+        Check.same("hour 0", 11, book.risk(0, 0, 0));
+        Check.same("depth 9", 8, book.risk(0, 0, 9));
         Check.noIndex("place 12", () -> book.risk(12, 0, 0));
         Check.noIndex("place -1", () -> book.risk(-1, -1, -1));
         Check.noArgument("hour 10000", () -> book.risk(0, 10000, 0));

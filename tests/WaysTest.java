@@ -95,6 +95,11 @@ public final class WaysTest {
         // from 2 to 0 by 1 by depth 3: in hour 1 to 1 is too deep, in hour 2 one is there in hour 3
         Check.same("by depth 3", -1, book.start(2, 0, 1, 3, 0));
         Check.same("in hour 3 one can go the other way, and over with the next tide", 3, book.start(2, 0, 1, 4, 0));
+        // ranges 0, 2, 4, 6 in tides 14, 15, 16, 17: four hours on ground 2 are dry until hour 64
+        TideBook rising = Check.coast("period 4;round 28;range 0 to 28;ground 0 2;ground 1 2;ground 2 2;ground 3 2;ground 4 19");
+        Check.same("all hours of the tide before", 59, rising.start(0, 4, 1, 0, 14));
+        Check.same("the first hour alone", 60, rising.start(0, 4, 1, 0, 15));
+        Check.same("no hour of the next tide", -1, rising.start(0, 4, 1, 0, 16));
         book.wind(5);
         Check.same("by wind", -1, book.start(0, 3, 3, 0, 0));
         Check.noIndex("from 12", () -> book.start(12, 0, 1, 0, 0));
