@@ -110,27 +110,24 @@ public final class ChanceTest {
         Check.noArgument("span(-1, false)", () -> book.span(-1, false));
     }
 
-    /** Coasts on which the first wind of just one of the seeds 1 to 6 lets one keep the duty, or not. */
+    /** A monk who sets out in this hour alone, and keeps the duty beside if the wind lets it. */
+    private static TideBook setsOut(int hour, int ground) {
+        TideBook book = Check.coast("storm 100;period 4;range 5 to 5;ground 0 19;monk 0 pace 1 goal 1;ground 1 " + ground
+                + ";duty 1 from " + hour + " to " + hour);
+        Check.rule(book, "wait if hour < " + hour);
+        return book;
+    }
+
     private static void oneSeedAlone() {
-        // first winds of seeds 0 to 7 by storm 100, less 5, as the document draws them
-        int[] winds = new int[8];
-        for (int seed = 0; seed < 8; seed++) {
-            int first = 1103515245 * seed + 12345;
-            int second = 1103515245 * first + 12345;
-            winds[seed] = (second >>> 16 & 32767) % 11 - 5;
-        }
-        for (int ground = 0; ground < 6; ground++) {
-            int fewest = 1;
-            int most = 0;
-            for (int seed = 1; seed <= 6; seed++) {
-                int kept = Math.max(0, winds[seed] + 3) - ground <= 1 ? 1 : 0;
-                fewest = Math.min(fewest, kept);
-                most = Math.max(most, kept);
-            }
-            TideBook book = Check.coast("storm 100;range 3 to 3;ground 0 19;monk 0 pace 1 goal 1;duty 1 from 0 to 0;ground 1 " + ground);
-            Check.same("the fewest on " + ground, fewest, book.span(1, false));
-            Check.same("the most on " + ground, most, book.span(1, true));
-        }
+        // in hour 16 the winds of seeds 1 to 6 are 0, -1, -2, -3, -3, -4
+        Check.same("seed 1 alone misses it", 0, setsOut(16, 3).span(17, false));
+        Check.same("the others do not", 1, setsOut(16, 3).span(17, true));
+        Check.same("none misses it", 1, setsOut(16, 4).span(17, false));
+        Check.same("seed 6 alone keeps it", 1, setsOut(16, 0).span(17, true));
+        Check.same("the others do not", 0, setsOut(16, 0).span(17, false));
+        // in hour 8 they are 1, -3, -5, 3, -1, -3; those of seeds 0 and 7 are 4 and 5
+        Check.same("seeds 0 and 7 do not count", 1, setsOut(8, 7).span(9, false));
+        Check.same("seed 4 misses it", 0, setsOut(8, 6).span(9, false));
     }
 
     private static void seeds() {

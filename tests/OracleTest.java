@@ -4,7 +4,7 @@ import java.util.Random;
 
 /** Random runs of calls, each answer compared with that of the Oracle. */
 public final class OracleTest {
-    private static final int RUNS = 600;
+    private static final int RUNS = 2000;
     private static final int CALLS = 512;
     private static final String[] ASKED = {"fault", "ground", "monk", "monk", "duty", "range", "water", "depth", "printed",
         "high", "low", "dry", "highest", "way", "way", "start", "safe", "fetch", "fetch", "most", "most", "clash", "blank",

@@ -855,7 +855,8 @@ public final class TideBook {
                 return neap;
             }
             int k = tide % round;
-            return neap + (spring - neap) * Math.abs(2 * k - round) / round;
+            int far = 2 * k > round ? 2 * k - round : round - 2 * k;
+            return neap + (spring - neap) * far / round;
         }
 
         int waterWith(int hour, int wind) {
@@ -873,7 +874,7 @@ public final class TideBook {
 
         int depthBy(int water, int place) {
             int height = place >= 0 && place < ground.length ? ground[place] : 0;
-            return Math.max(0, water - height);
+            return water > height ? water - height : 0;
         }
 
         int printedBy(int edition, int tide) {
@@ -964,6 +965,7 @@ public final class TideBook {
         private static final int MOST_DIGITS = 3;
 
         private final Tape tape;
+        private final char[] words = WORDS.toCharArray();
         private int kind = END;
         private int value = 0;
         private int begin = 0;
@@ -1012,9 +1014,8 @@ public final class TideBook {
             int number = 0;
             int place = begin;
             boolean same = true;
-            for (int i = 0; i < WORDS.length(); i++) {
-                char sign = WORDS.charAt(i);
-                if (sign == ' ') {
+            for (int i = 0; i < words.length; i++) {
+                if (words[i] == ' ') {
                     if (same && place == behind) {
                         return number;
                     }
@@ -1022,7 +1023,7 @@ public final class TideBook {
                     place = begin;
                     same = true;
                 } else {
-                    same = same && place < behind && place < tape.bytes.length && tape.bytes[place] == sign;
+                    same = same && place < behind && place < tape.bytes.length && tape.bytes[place] == words[i];
                     place++;
                 }
             }
@@ -1075,7 +1076,11 @@ public final class TideBook {
         }
 
         boolean takeWord(int word) {
-            return skipWord(word) || miss();
+            if (word() != word) {
+                return miss();
+            }
+            next();
+            return true;
         }
 
         boolean takeSign(char sign) {
