@@ -1,9 +1,12 @@
+import java.util.NoSuchElementException;
 import java.util.concurrent.Callable;
 
 /** What the tests share: telling texts, comparing answers, and the exit code. */
 final class Check {
     private static int wrong = 0;
     private static int asked = 0;
+    private static int askedBefore = 0;
+    private static boolean quoted = false;
     private static String place = "";
 
     private Check() {
@@ -11,7 +14,29 @@ final class Check {
 
     /** The promise that the next lines are about; AllPromisesTest looks for these calls. */
     static void promise(int number) {
+        closeSentence();
         place = "promise " + number + ": ";
+    }
+
+    /** The sentence that the next lines are about: a promise that shows it, and its words; SentencesTest looks for these. */
+    static void sentence(int promise, String words) {
+        closeSentence();
+        place = "promise " + promise + ", '" + words + "': ";
+        quoted = true;
+        askedBefore = asked;
+        if (!Document.has(promise, words)) {
+            wrong++;
+            System.out.println(place + "the document has no such words there");
+        }
+    }
+
+    /** A quoted sentence with nothing asked about it is no test of it. */
+    private static void closeSentence() {
+        if (quoted && asked == askedBefore) {
+            wrong++;
+            System.out.println(place + "nothing was asked");
+        }
+        quoted = false;
     }
 
     static void same(String what, long want, long got) {
@@ -50,6 +75,14 @@ final class Check {
 
     static void noArgument(String what, Callable<?> call) {
         fails(what, IllegalArgumentException.class, call);
+    }
+
+    static void noElement(String what, Callable<?> call) {
+        fails(what, NoSuchElementException.class, call);
+    }
+
+    static void noState(String what, Callable<?> call) {
+        fails(what, IllegalStateException.class, call);
     }
 
     /** The tape has these bytes alone. */
@@ -99,6 +132,7 @@ final class Check {
     }
 
     static void finish() {
+        closeSentence();
         System.out.println(asked + " answers, " + wrong + " not as due");
         if (wrong != 0) {
             System.exit(1);
