@@ -401,6 +401,15 @@ public final class Edge10UndoTest {
         other.image();
         other.back();
         Whole.alikeButFault("behind back()", other, book);
+        TideBook law = Check.coast("monk 3 pace 1");
+        Check.rule(law, "wade 3;tire 2");
+        law.image();
+        Check.rule(law, "wait;wade 5;wade 6");
+        law.back();
+        Check.same("LINES of its law", 2, law.count(3));
+        Check.same("WADES by its law", 4, law.monk(0, 5));
+        Check.same("WAITS by its law", 0, law.monk(0, 6));
+        Check.same("TIRES by its law", 2, law.monk(0, 7));
         // of a new one, without a law
         TideBook bare = new TideBook();
         bare.image();

@@ -14,6 +14,7 @@ public final class Edge3LawTest {
         stepNow();
         hourModulo24();
         rising();
+        risingWithOthers();
         there();
         tiredAndPlace();
         wades();
@@ -144,8 +145,13 @@ public final class Edge3LawTest {
         Check.no("f and ( t or t )", holds(book, 0, f + " and (" + t + " or " + t + ")"));
         Check.yes("t and f or t and t", holds(book, 0, t + " and " + f + " or " + t + " and " + t));
         Check.no("t and f or f and t", holds(book, 0, t + " and " + f + " or " + f + " and " + t));
-        Check.yes("f or f or t", holds(book, 0, f + " or " + f + " or " + t));
-        Check.no("t and t and f", holds(book, 0, t + " and " + t + " and " + f));
+        for (int bits = 0; bits < 8; bits++) {
+            String a = (bits & 1) == 1 ? t : f;
+            String b = (bits & 2) == 2 ? t : f;
+            String c = (bits & 4) == 4 ? t : f;
+            Check.same(a + " or " + b + " or " + c, bits > 0 ? 1 : 0, holds(book, 0, a + " or " + b + " or " + c) ? 1 : 0);
+            Check.same(a + " and " + b + " and " + c, bits == 7 ? 1 : 0, holds(book, 0, a + " and " + b + " and " + c) ? 1 : 0);
+        }
         Check.no("not of the first ATOM alone", holds(book, 0, "not " + t + " and " + t));
         Check.yes("not of the first ATOM alone", holds(book, 0, "not " + t + " or " + t));
         Check.no("not of a ( C )", holds(book, 0, "not (" + f + " or " + t + ")"));
@@ -269,6 +275,23 @@ public final class Edge3LawTest {
             Check.yes("the last STEP of " + period, holds(book, 0, "rising"));
             book.hours(1);
             Check.no("STEP 0 again", holds(book, 0, "rising"));
+        }
+    }
+
+    private static void risingWithOthers() {
+        Check.sentence(5, "ATOM: not ATOM | ( C ) | rising | there | SUM < SUM | SUM > SUM.");
+        // in STEP 6 of 12, at its GOAL: each kind of ATOM holds, and joins with each
+        String[] hold = {"rising", "there", "1 < 2", "2 > 1", "(rising)", "not 1 > 2"};
+        for (String one : hold) {
+            TideBook book = Check.coast("monk 3 pace 1;ground 3 19");
+            book.hours(6);
+            Check.yes(one, holds(book, 0, one));
+            Check.no("not " + one, holds(book, 0, "not " + one));
+            Check.yes("not not " + one, holds(book, 0, "not not " + one));
+            for (String other : hold) {
+                Check.yes(one + " and " + other, holds(book, 0, one + " and " + other));
+                Check.yes(one + " or " + other, holds(book, 0, one + " or " + other));
+            }
         }
     }
 

@@ -410,6 +410,10 @@ public final class Edge5ActsTest {
         Check.same("one row", 1, two.count(14));
         TideBook last = Check.coast("range 0 to 0;monk 0 pace 1;monk 0 pace 1;monk 0 pace 1;monk 0 pace 1;monk 0 pace 1;monk 11 pace 1;duty 11 from 0 to 9");
         Check.same("the last MONK, the last PLACE", 1, last.hours(1));
+        // at PLACE 0, where there is none
+        Check.same("without MONKS", 0, Check.coast("range 0 to 0;duty 0 from 0 to 9").hours(9));
+        Check.same("one MONK, elsewhere", 0, Check.coast("range 0 to 0;monk 1 pace 1;duty 0 from 0 to 9").hours(9));
+        Check.same("six MONKS, elsewhere", 0, Check.coast("range 0 to 0;monk 1 pace 1" + ";monk 11 pace 1".repeat(5) + ";duty 0 from 0 to 9").hours(9));
         TideBook wet = Check.coast("monk 5 pace 1;duty 5 from 0 to 0;duty 5 from 1 to 99");
         Check.same("by one who drowns at the end of the HOUR", 1, wet.hours(1));
         Check.same("it is DROWNED", 1, wet.count(13));

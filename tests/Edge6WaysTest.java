@@ -95,7 +95,9 @@ public final class Edge6WaysTest {
         Check.same("three of no WATER", 5, even.low(1));
         even.wind(-4);
         Check.same("one of no WATER", 6, even.low(1));
-        // 2, 1, 0, 1 by RANGE 2; by RANGE 3: 3, 1, 0, 1
+        // RANGE 30 in TIDE 0, none in TIDE 1: 30, 18, 6, 6, 18, 0
+        Check.same("of no HOUR of the next TIDE", 2, Check.coast("period 5;round 2;range 0 to 30").low(0));
+        Check.same("of no HOUR of the TIDE before", 12, Check.coast("period 5;round 2;range 0 to 30").low(2));
         TideBook first = Check.coast("period 4;range 2 to 2");
         first.wind(-2);
         Check.same("all four", 4, first.low(1));
@@ -132,6 +134,18 @@ public final class Edge6WaysTest {
         Check.same("dry(11, 400)", 12, book.dry(11, 400));
         book.wind(1);
         Check.same("none", 0, book.dry(0, 0));
+        // 20, 16, .. and 19, 15, ..: the highest GROUND is wet by 20
+        TideBook high = Check.coast("period 10;range 20 to 20;ground 0 19;ground 1 18");
+        Check.same("GROUND 19 by WATER 20", 9, high.dry(0, 0));
+        high.wind(-1);
+        Check.same("GROUND 19 by WATER 19", 10, high.dry(0, 0));
+        Check.same("GROUND 18 by WATER 19", 9, high.dry(1, 0));
+        TideBook most = Check.coast("period 10;range 30 to 30;ground 0 19;ground 1 18");
+        // 30, 24, 18, 12, 6, 0, 6, ..
+        Check.same("GROUND 19 by WATER 30, D 9", 9, most.safe(0, 0, 9, 0));
+        most.wind(-2);
+        Check.same("GROUND 19 by WATER 28, D 9", 10, most.safe(0, 0, 9, 0));
+        Check.same("GROUND 18 by WATER 28, D 9", 9, most.safe(1, 1, 9, 0));
         // ROUND 2: the WATER of TIDE 0 is 4 in STEP 0, that of TIDE 1 none
         TideBook two = Check.coast("period 4;round 2;range 0 to 4");
         Check.same("its own HOURS alone", 1, two.dry(0, 0));
@@ -341,6 +355,11 @@ public final class Edge6WaysTest {
         Check.same("the first HOUR of the TIDE alone", 56, book.start(0, 4, 1, 0, 14));
         Check.same("none", TideBook.NONE, book.start(0, 4, 1, 0, 15));
         Check.same("by 2 in HOURS 62 and 63", 62, book.start(0, 4, 2, 0, 15));
+        // RANGES 30, 15, 0, 15, 30 in TIDES 0 to 4 of 5 HOURS: 3 at least in TIDE 3, where one is out on the flats
+        TideBook out = Check.coast("period 5;round 4;range 0 to 30;ground 9 19");
+        Check.same("off the flats in the last HOUR of the TIDE", 14, out.start(5, 9, 4, 2, 2));
+        Check.same("in no HOUR of the next one", TideBook.NONE, out.start(5, 9, 4, 2, 3));
+        Check.same("in the last HOUR of the TIDE, by one who stays for the next", 9, out.start(5, 9, 4, 2, 1));
         Check.same("where one is, TIDE 0", 3, book.start(6, 6, 1, 0, 0));
         Check.same("where one is, TIDE 400", 1603, book.start(6, 6, 1, 0, 400));
         // 60 HOURS count, 61 do not: all HOURS of TIDE 0 but the first two
@@ -397,6 +416,9 @@ public final class Edge6WaysTest {
         Check.same("D 1 is not 2", 9, book.safe(1, 3, 1, 0));
         Check.same("just D 2", 11, book.safe(1, 3, 2, 0));
         Check.same("just D 4", 12, book.safe(1, 3, 4, 0));
+        TideBook first = Check.coast("range 12 to 12;ground 1 19;ground 2 19;ground 9 19;ground 10 19");
+        Check.same("the first PLACE of the row is the lowest", 1, first.safe(0, 2, 0, 0));
+        Check.same("the last PLACE of the row is the lowest", 1, first.safe(9, 11, 0, 0));
         book.wind(1);
         Check.same("no HOUR", 0, book.safe(4, 5, 0, 0));
         Check.same("the flats alone by 1", 1, book.safe(5, 11, 1, 7));

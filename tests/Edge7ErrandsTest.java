@@ -246,6 +246,15 @@ public final class Edge7ErrandsTest {
         }
         Check.noArgument("five", () -> send(six, TideBook.NONE, 0, 2, 4, 6, 8));
         Check.noArgument("seven", () -> send(six, TideBook.NONE, 0, 2, 4, 6, 8, 10, 11));
+        // fewer MONKS behind more: an answer has nothing to do with the one before
+        TideBook fewer = Check.coast(DRY + ";monk 0 pace 1");
+        fewer.image();
+        Check.tell(fewer, "monk 5 pace 1;monk 9 pace 1");
+        Check.same("three", 8, send(fewer, TideBook.NONE, 11, 11, 0));
+        fewer.back();
+        Check.same("one", 3, send(fewer, TideBook.NONE, 3));
+        Check.tell(fewer, "monk 5 pace 1");
+        Check.same("two", 4, send(fewer, TideBook.NONE, 3, 2));
         // the longest ways together: 6 times 11 HOURS
         TideBook far = Check.coast(DRY + ";monk 0 pace 1;monk 0 pace 1;monk 0 pace 1;monk 0 pace 1;monk 0 pace 1;monk 0 pace 1");
         Check.same("66 HOURS", 66, send(far, TideBook.NONE, 11, 11, 11, 11, 11, 11));

@@ -60,6 +60,9 @@ public final class Edge9AheadTest {
         Check.same("1 below it", 0, Check.coast("range 6 to 6;ground 4 5;ground 5 6;ground 6 4;monk 5 pace 1").stranded());
         Check.same("1 above it", 0, Check.coast("range 6 to 6;ground 4 4;ground 5 6;ground 6 5;monk 5 pace 1").stranded());
         Check.same("1 on both sides", 0, Check.coast("range 6 to 6;ground 4 5;ground 5 6;ground 6 5;monk 5 pace 1").stranded());
+        // beside the ends of the row, which are dry land here
+        Check.same("at 1, beside dry land at 0", 0, Check.coast("range 6 to 6;ground 0 6;ground 1 6;ground 2 0;monk 1 pace 1").stranded());
+        Check.same("at 10, beside dry land at 11", 0, Check.coast("range 6 to 6;ground 11 6;ground 10 6;ground 9 0;monk 10 pace 1").stranded());
         TideBook wade = Check.coast("range 6 to 6;ground 4 4;ground 5 6;ground 6 3;monk 5 pace 1");
         Check.rule(wade, "wade 1");
         Check.same("just what one WADES on one side", 0, wade.stranded());
@@ -207,6 +210,12 @@ public final class Edge9AheadTest {
         Check.same("all of them", 0b111010, book.done(100));
         book.wind(2);
         Check.same("it is there, by whatever WIND", 0b111010, book.done(5));
+        // by WIND 2 one cannot go to the DUTY, by the WIND 0 that STEP 0 would draw one could
+        TideBook wind = Check.coast("range 0 to 0;ground 0 9;monk 0 pace 1 goal 1;duty 1 from 0 to 99");
+        wind.wind(2);
+        Check.same("WIND as it is", 0, wind.done(100));
+        wind.wind(1);
+        Check.same("WIND as it is", 1, wind.done(1));
         Whole.leavesAll("nothing stays", Whole::rich, b -> b.done(100));
         Check.same("of none", 0, new TideBook().done(100));
     }

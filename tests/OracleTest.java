@@ -158,7 +158,12 @@ public final class OracleTest {
     private boolean bytes() {
         String name = new String[] {"send", "send", "came", "amends", "witness"}[chance.nextInt(5)];
         boolean sending = name.equals("send");
+        if (calls + 2 > CALLS) {
+            calls = CALLS;
+            return true;
+        }
         int alive = book.count(0) - Integer.bitCount(book.count(13));
+        calls += 2;
         int size = sending ? alive : 2 * chance.nextInt(chance.nextInt(5) == 0 ? 22 : 5);
         size = chance.nextInt(12) == 0 ? size + 1 : size;
         int[] bytes = new int[size];
@@ -172,6 +177,10 @@ public final class OracleTest {
     }
 
     private boolean ask(String name, int... numbers) {
+        // what a later call answers is free
+        if (calls >= CALLS) {
+            return true;
+        }
         calls++;
         String got = Calls.of(book, name, numbers);
         String want = Calls.of(oracle, name, numbers);

@@ -32,7 +32,7 @@ public final class UndoTest {
         for (int tide = 0; tide < 12; tide++) {
             sum = 31 * sum + book.printed(tide) + book.ground(tide);
         }
-        for (int ago = 0; ago < 60; ago++) {
+        for (int ago = 0; ago < book.count(14); ago++) {
             sum = 31 * sum + book.log(ago, 0) + 7 * book.log(ago, 1) + 5 * book.log(ago, 3);
         }
         return 31 * sum + book.trial(30, false);
@@ -52,18 +52,21 @@ public final class UndoTest {
 
     private static void eachAct() {
         Check.promise(49);
+        for (int which = 0; which < 7; which++) {
+            TideBook one = book();
+            one.hours(3);
+            long before = all(one);
+            act(one, which);
+            Check.yes("act " + which + " changes something", before != all(one));
+            Check.same("one more act", 2, one.count(15));
+            Check.yes("undo", one.undo());
+            Check.same("all is as ahead of act " + which, before, all(one));
+            Check.same("acts", 1, one.count(15));
+        }
         TideBook book = book();
         Check.no("none at first", book.undo());
         book.hours(3);
         for (int which = 0; which < 7; which++) {
-            long before = all(book);
-            int acts = book.count(15);
-            act(book, which);
-            Check.yes("act " + which + " changes something", before != all(book));
-            Check.same("one more act", acts + 1, book.count(15));
-            Check.yes("undo", book.undo());
-            Check.same("all is as ahead of act " + which, before, all(book));
-            Check.same("acts", acts, book.count(15));
             act(book, which);
         }
         Check.same("eight acts", 8, book.count(15));
